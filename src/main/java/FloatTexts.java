@@ -880,8 +880,10 @@ public final class FloatTexts {
             return WHOLE_LIMBS - 1 - Math.floorDiv(position, LIMB_DIGITS);
         }
 
+        /** The power of 10 that a position has within its limb. */
         private static int tenOf(int position) {
-            return TENS[Math.floorMod(position, LIMB_DIGITS)];
+            int place = Math.floorMod(position, LIMB_DIGITS);
+            return place < 0 || place >= TENS.length ? 1 : TENS[place];
         }
 
         private int limbAt(int i) {
@@ -984,7 +986,8 @@ public final class FloatTexts {
         }
 
         int digitAt(int position) {
-            return limbAt(limbOf(position)) / tenOf(position) % 10;
+            int ten = tenOf(position);
+            return ten > 0 ? limbAt(limbOf(position)) / ten % 10 : 0;
         }
 
         /** What the digits below 10^position are, as part of 10^position. */
@@ -1008,7 +1011,8 @@ public final class FloatTexts {
                 setLimb(i, other.limbAt(i));
             }
             int limb = other.limbAt(end);
-            setLimb(end, limb - limb % tenOf(position));
+            int ten = tenOf(position);
+            setLimb(end, ten > 0 ? limb - limb % ten : limb);
         }
 
         /** Adds 10^position. */
@@ -1090,7 +1094,7 @@ public final class FloatTexts {
         int length;
 
         ByteRow(int room) {
-            bytes = new byte[room];
+            bytes = new byte[Math.max(room, 0)];
             length = 0;
         }
 

@@ -113,12 +113,7 @@ public final class NumbersTest {
     }
 
     private static void checkConvert(int f, long bits, int to, int way) {
-        boolean minus = Model.minus(f, bits);
-        int kind = Model.kind(f, bits);
-        long[] want = {Model.signed(to, minus, kind == 3 ? Model.infinite(to) : 0), 0};
-        if (kind == 1 || kind == 2) {
-            want = Model.round(to, minus, Model.size(f, bits), way);
-        }
+        long[] want = converted(f, bits, to, way);
         FloatTexts x = new FloatTexts();
         x.nearest(0, 1, 400, 0);
         String what = "convert to " + to + " by " + way + ", " + Due.hexOf(f, bits);
@@ -127,7 +122,24 @@ public final class NumbersTest {
         Due.same(what + ": flags", x.flags(), want[1]);
     }
 
+    static long[] converted(int f, long bits, int to, int way) {
+        boolean minus = Model.minus(f, bits);
+        switch (Model.kind(f, bits)) {
+            case 0: return new long[] {Model.signed(to, minus, 0), 0};
+            case 3: return new long[] {Model.signed(to, minus, Model.infinite(to)), 0};
+            case 4: return new long[] {convertedNan(f, bits, to), 0};
+            default: return Model.round(to, minus, Model.size(f, bits), way);
+        }
+    }
+
     /** The bits behind the highest one of the fraction, as texts of 0 and 1. */
+    private static long convertedNan(int f, long bits, int to) {
+        long fraction = Model.unsigned(f, bits) - Model.infinite(f);
+        String own = Long.toBinaryString(1L << (Model.P[f] - 1) | fraction).substring(2);
+        String room = (own + "0".repeat(64)).substring(0, Model.P[to] - 2);
+        return Model.signed(to, Model.minus(f, bits), Model.infinite(to) + Long.parseLong("1" + room, 2));
+    }
+
     private static void convertNans() {
         Random random = new Random(9);
         for (int i = 0; i < 4000; i++) {
@@ -136,9 +148,7 @@ public final class NumbersTest {
             long fraction = 1 + (random.nextLong() >>> 1) % ((1L << (Model.P[f] - 1)) - 1);
             boolean minus = random.nextBoolean();
             long bits = Model.signed(f, minus, Model.infinite(f) + fraction);
-            String own = Long.toBinaryString(1L << (Model.P[f] - 1) | fraction).substring(2);
-            String room = (own + "0".repeat(64)).substring(0, Model.P[to] - 2);
-            long want = Model.signed(to, minus, Model.infinite(to) + Long.parseLong("1" + room, 2));
+            long want = convertedNan(f, bits, to);
             FloatTexts x = new FloatTexts();
             x.nearest(0, 1, 400, 0);
             String what = "convert to " + to + ", " + Due.hexOf(f, bits);
@@ -149,7 +159,7 @@ public final class NumbersTest {
     }
 
     /** The place among all numbers from the least to the greatest, both zeros at 0. */
-    private static BigInteger place(int f, long bits) {
+    static BigInteger place(int f, long bits) {
         BigInteger size = BigInteger.valueOf(Model.unsigned(f, bits));
         return Model.minus(f, bits) ? size.negate() : size;
     }
@@ -176,7 +186,7 @@ public final class NumbersTest {
         Due.same("of a nan", x.next(2, 0xfc01, true), 0xfc01);
     }
 
-    private static long nextOf(int f, long bits, boolean up) {
+    static long nextOf(int f, long bits, boolean up) {
         if (Model.kind(f, bits) == 4 || Model.kind(f, bits) == 3 && up != Model.minus(f, bits)) {
             return bits;
         }
@@ -198,9 +208,7 @@ public final class NumbersTest {
                         Due.refuses(what, new FloatTexts(), x -> x.steps(as, a, b));
                         continue;
                     }
-                    BigInteger want = place(f, b).subtract(place(f, a));
-                    want = want.min(BigInteger.valueOf(Long.MAX_VALUE)).max(BigInteger.valueOf(Long.MIN_VALUE));
-                    Due.same(what, new FloatTexts().steps(f, a, b), want.longValue());
+                    Due.same(what, new FloatTexts().steps(f, a, b), stepsOf(f, a, b));
                 }
             }
         }
@@ -213,6 +221,11 @@ public final class NumbersTest {
         Due.same("just -2^63", x.steps(0, 0x7fe0000000000000L, Long.MIN_VALUE | 0x0020000000000000L), Long.MIN_VALUE);
         Due.same("-2^63 and 1", x.steps(0, 0x7fdfffffffffffffL, Long.MIN_VALUE | 0x0020000000000000L), Long.MIN_VALUE + 1);
         Due.same("beyond -2^63", x.steps(0, 0x7fe0000000000001L, Long.MIN_VALUE | 0x0020000000000000L), Long.MIN_VALUE);
+    }
+
+    static long stepsOf(int f, long a, long b) {
+        BigInteger all = place(f, b).subtract(place(f, a));
+        return all.min(BigInteger.valueOf(Long.MAX_VALUE)).max(BigInteger.valueOf(Long.MIN_VALUE)).longValue();
     }
 
     /** The steps told are just those that next() goes. */
@@ -248,7 +261,7 @@ public final class NumbersTest {
     }
 
     /** -0 is before 0, and both are apart. */
-    private static BigInteger rank(int f, long bits) {
+    static BigInteger rank(int f, long bits) {
         BigInteger place = place(f, bits);
         return Model.minus(f, bits) ? place.subtract(BigInteger.ONE) : place;
     }
