@@ -461,18 +461,11 @@ public final class FloatTexts {
     }
 
     private void roundDecimal(Format shape, int way) {
-        int position = scan.wholeDigits + scan.exponent;
-        if (roundedFar(shape, scan.minus, position - scan.leading, way)) {
+        int point = scan.wholeDigits + scan.exponent;
+        if (roundedFar(shape, scan.minus, point - scan.leading, way)) {
             return;
         }
-        number.empty();
-        for (int place = scan.start; place < scan.end; place++) {
-            int value = Scan.valueOf(text.at(place));
-            if (value >= 0) {
-                position--;
-                number.put(position, value);
-            }
-        }
+        number.setDigits(text, scan.start, scan.end, point - 1);
         roundRow(number, shape, scan.minus, way);
     }
 
@@ -489,7 +482,7 @@ public final class FloatTexts {
         }
         number.empty();
         for (int i = 0; i < count; i++) {
-            number.put(e + i, (int) -(size % 10));
+            number.addDigit((int) -(size % 10), e + i);
             size /= 10;
         }
         roundRow(number, shape, m < 0, way);
@@ -811,6 +804,7 @@ public final class FloatTexts {
 
         private static final int LIMB_DIGITS = 9;
         private static final int BASE = 1000000000;
+        private static final int HIGHEST_TEN = 100000000;
         private static final int[] TENS = {
             1, 10, 100, 1000, 10000, 100000, 1000000, 10000000, 100000000
         };
@@ -864,16 +858,39 @@ public final class FloatTexts {
         }
 
         /** Puts a digit at 10^position, where there was none. */
-        void put(int position, int digit) {
-            if (digit == 0) {
-                return;
-            }
+        void addDigit(int digit, int position) {
             int i = limbOf(position);
-            if (i >= LIMBS) {
-                lost = true;
-            } else {
-                setLimb(i, limbAt(i) + digit * tenOf(position));
+            placeLimb(i, limbAt(i) + digit * tenOf(position));
+        }
+
+        /** Becomes the digits that a text has from start to end - 1, the first of them at 10^position. */
+        void setDigits(ByteRow text, int start, int end, int position) {
+            empty();
+            int i = limbOf(position);
+            int ten = tenOf(position);
+            int sum = 0;
+            for (int place = start; place < end; place++) {
+                int c = text.at(place);
+                if (c == '.') {
+                    continue;
+                }
+                sum += (c - '0') * ten;
+                ten /= 10;
+                if (ten == 0) {
+                    placeLimb(i, sum);
+                    i++;
+                    sum = 0;
+                    ten = HIGHEST_TEN;
+                }
             }
+            placeLimb(i, sum);
+        }
+
+        private void placeLimb(int i, int value) {
+            if (i >= LIMBS && value != 0) {
+                lost = true;
+            }
+            setLimb(i, value);
         }
 
         private static int limbOf(int position) {
@@ -985,6 +1002,22 @@ public final class FloatTexts {
             return position;
         }
 
+        /** Gives digits from the first that is not 0 on. */
+        void giveDigits(byte[] to, int count) {
+            int i = first;
+            int limb = limbAt(i);
+            int ten = tenOf(point() - 1);
+            for (int at = 0; at < count && at < to.length && ten > 0; at++) {
+                to[at] = (byte) (limb / ten % 10);
+                ten /= 10;
+                if (ten == 0) {
+                    i++;
+                    limb = limbAt(i);
+                    ten = HIGHEST_TEN;
+                }
+            }
+        }
+
         int digitAt(int position) {
             int ten = tenOf(position);
             return ten > 0 ? limbAt(limbOf(position)) / ten % 10 : 0;
@@ -1077,9 +1110,7 @@ public final class FloatTexts {
             minus = withMinus;
             count = Math.min(upTo, ROOM);
             point = row.point();
-            for (int i = 0; i < count; i++) {
-                digits[i] = (byte) row.digitAt(point - 1 - i);
-            }
+            row.giveDigits(digits, count);
         }
 
         /** Behind the last digit all are 0. */
