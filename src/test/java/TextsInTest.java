@@ -20,6 +20,8 @@ public final class TextsInTest {
         }
         mixedTexts();
         middles();
+        hairs();
+        nothingStaysOfTextsBefore();
         longNumerals();
         randomNumerals();
         wrongCalls();
@@ -171,6 +173,52 @@ public final class TextsInTest {
                 readAllWays(sign + middle.add(hair).toPlainString());
                 readAllWays(sign + middle.subtract(hair.movePointRight(300)).toPlainString());
                 readAllWays(sign + Model.size(f, bits).toString());
+            }
+        }
+    }
+
+    /** A digit that is far behind all others makes another number, wherever it is. */
+    private static void hairs() {
+        Random random = new Random(14);
+        BigDecimal[] numbers = {
+            BigDecimal.ONE, Model.two(60), Model.two(100), Model.two(200), Model.two(500), Model.two(1000), Model.two(1023),
+            Model.two(-20), Model.middle(0, Double.doubleToRawLongBits(1.0)), Model.middle(1, 0x3f800000L),
+            Model.middle(2, 0x3c00), Model.middle(3, 0x3f80), Model.middle(0, Double.doubleToRawLongBits(0x1p900))
+        };
+        for (BigDecimal number : numbers) {
+            for (int p : new int[] {1, 40, 200, 700, 1000, 1070, 1071, 1072, 1079, 1080, 1081, 1082, 1088, 1089, 1090, 1091, 1098, 1099,
+                    1100, 1200, 1280}) {
+                BigDecimal hair = BigDecimal.ONE.scaleByPowerOfTen(-p);
+                readOneWay(number.add(hair).toPlainString(), random);
+                readOneWay("-" + number.add(hair).toPlainString(), random);
+                readOneWay(number.subtract(hair).toPlainString(), random);
+                readOneWay(number.setScale(p, java.math.RoundingMode.DOWN).toPlainString(), random);
+            }
+        }
+    }
+
+    /** Long texts, a new one behind each on the same object. */
+    private static void nothingStaysOfTextsBefore() {
+        String[] texts = {
+            "1." + "0".repeat(1200) + "1", "1.5", "1e-300", "0." + "0".repeat(1070) + "123456789123", "2", "9".repeat(300), "0.5",
+            "5e-324", "1e300", "0." + "9".repeat(1079), "0x1.8p0", "0." + "3".repeat(1500), "1e-5", "12.5e-1", "0x1.00000000000000001", "3"
+        };
+        for (String before : texts) {
+            for (String text : texts) {
+                FloatTexts x = new FloatTexts();
+                for (String each : new String[] {before, text}) {
+                    x.clear();
+                    Due.typeAll(x, each);
+                    long[] want = Model.read(0, each, 0);
+                    Due.same("read of " + each, x.read(0, 0), 0);
+                    Due.same("result of " + each, x.result(), want[0]);
+                    Due.same("flags of " + each, x.flags(), want[1]);
+                }
+                x.exact(0, Double.doubleToRawLongBits(0.5), 1);
+                Due.same("0.5 behind texts", x.decimal(0) * 100 + x.decimal(1) * 10 + x.digit(0), 105);
+                x.nearest(0, 5, -1, 0);
+                Due.same("5e-1 behind texts", x.result(), Double.doubleToRawLongBits(0.5));
+                Due.same("its flags", x.flags(), 0);
             }
         }
     }
