@@ -799,7 +799,7 @@ public final class FloatTexts {
      * numbers of all formats are exact in it.
      */
     private static final class Row {
-        /** A scaled row has at least 56 bits before the point, and few enough for a long. */
+        /** A row scaled to these has at least 57 bits before the point, and few enough for a long. */
         static final int KEPT_BITS = 61;
 
         private static final int LIMB_DIGITS = 9;

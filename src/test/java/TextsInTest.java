@@ -201,7 +201,8 @@ public final class TextsInTest {
     private static void nothingStaysOfTextsBefore() {
         String[] texts = {
             "1." + "0".repeat(1200) + "1", "1.5", "1e-300", "0." + "0".repeat(1070) + "123456789123", "2", "9".repeat(300), "0.5",
-            "5e-324", "1e300", "0." + "9".repeat(1079), "0x1.8p0", "0." + "3".repeat(1500), "1e-5", "12.5e-1", "0x1.00000000000000001", "3"
+            "5e-324", "1e300", "0." + "9".repeat(1079), "1." + "0".repeat(1079) + "7", "0x1.8p0", "0." + "3".repeat(1500),
+            "1e-5", "12.5e-1", "0x1.00000000000000001", "3"
         };
         for (String before : texts) {
             for (String text : texts) {
@@ -213,6 +214,10 @@ public final class TextsInTest {
                     Due.same("read of " + each, x.read(0, 0), 0);
                     Due.same("result of " + each, x.result(), want[0]);
                     Due.same("flags of " + each, x.flags(), want[1]);
+                }
+                Due.same("0.5 in many decimals", x.fixed(0, Double.doubleToRawLongBits(0.5), 1080, 0), 1082);
+                for (int i = 1060; i < 1080; i++) {
+                    Due.same("digit " + i + " of 0.5 behind " + text, x.digit(i), 0);
                 }
                 x.exact(0, Double.doubleToRawLongBits(0.5), 1);
                 Due.same("0.5 behind texts", x.decimal(0) * 100 + x.decimal(1) * 10 + x.digit(0), 105);

@@ -181,7 +181,8 @@ public final class TextsOutTest {
 
     /** Numbers just between two decimals, by all ways and both signs. */
     private static void ties() {
-        for (double d : new double[] {0.5, 1.5, 2.5, 0.25, 0.75, 0.125, 0.375, 9.5, 99.5, 0.05, 12.5, 1e22, 5, 15, 25, 95, 1250}) {
+        for (double d : new double[] {0.5, 1.5, 2.5, 0.25, 0.75, 0.125, 0.375, 9.5, 99.5, 0.05, 12.5, 1e22, 5, 15, 25, 95, 1250,
+                11, 21, 101, 1001, 110, 2010, 64, 99, 9999, 1e9, 1000000001, 999999999.5, 999999999999999.0}) {
             for (int sign = 0; sign < 2; sign++) {
                 long bits = Double.doubleToRawLongBits(sign == 0 ? d : -d);
                 for (int way = 0; way < 5; way++) {
