@@ -11,8 +11,18 @@ final class Due {
     private static final int SHOWN_AT_MOST = 40;
     private static int asked = 0;
     private static int wrong = 0;
+    private static String under = "";
 
     private Due() {
+    }
+
+    /** What the answers from now on belong to; it is told with each that is wrong. */
+    static void under(String what) {
+        under = what + ": ";
+    }
+
+    static int asked() {
+        return asked;
     }
 
     static void same(String what, long got, long want) {
@@ -39,7 +49,7 @@ final class Due {
     private static void tell(String line) {
         wrong++;
         if (wrong <= SHOWN_AT_MOST) {
-            System.out.println(line);
+            System.out.println(under + line);
         }
     }
 

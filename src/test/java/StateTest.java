@@ -1,69 +1,15 @@
 import java.lang.management.ManagementFactory;
 
-/** What each call leaves as it was: a call that throws, a call that only asks, and the room. */
+/** What each call leaves as it was, and the room; of calls that throw StateSentences tells. */
 public final class StateTest {
     private static final long MINUS_12_5 = Double.doubleToRawLongBits(-12.5);
 
     public static void main(String[] args) {
-        thrownCallsChangeNothing();
         askingChangesNothing();
         makingLeavesTextAndResult();
         roundingLeavesTexts();
         theRoomStaysSmall();
         Due.end(StateTest.class);
-    }
-
-    /** An object of which every part has something. */
-    private static FloatTexts filled() {
-        FloatTexts x = Due.with("-1.5e-400");
-        x.exact(0, MINUS_12_5, 1);
-        x.read(0, 4);
-        return x;
-    }
-
-    private static void isFilled(String what, FloatTexts x) {
-        Due.same(what + ": result", x.result(), Long.MIN_VALUE | 1);
-        Due.same(what + ": flags", x.flags(), 5);
-        Due.same(what + ": OUT", "" + (char) x.out(0) + (char) x.out(1) + (char) x.out(2) + (char) x.out(3) + (char) x.out(4), "-12.5");
-        Due.outside(what + ": OUT's end", x, y -> y.out(5));
-        Due.same(what + ": the decimal", "" + x.decimal(0) + x.decimal(1) + x.decimal(2), "321");
-        Due.same(what + ": digits", "" + x.digit(0) + x.digit(1) + x.digit(2), "125");
-        Due.same(what + ": TEXT is read", x.read(0, 4), 0);
-        Due.same(what + ": TEXT", x.type(0, 0), 9);
-    }
-
-    private static void thrownCallsChangeNothing() {
-        Due.Call[] calls = {
-            x -> x.type(0, 9), x -> x.read(4, 0), x -> x.read(0, 5),
-            x -> x.shortest(4, 0, 0), x -> x.shortest(1, -1, 0), x -> x.shortest(0, 0, 3),
-            x -> x.exact(-1, 0, 0), x -> x.exact(2, 65536, 0), x -> x.exact(0, 0, -1),
-            x -> x.middle(4, 0, 0), x -> x.middle(3, 65536, 0), x -> x.middle(0, 0, 3),
-            x -> x.middle(0, 0x7ff0000000000000L, 0), x -> x.middle(0, -1, 0),
-            x -> x.digits(4, 0, 1, 0, 0), x -> x.digits(1, -1, 1, 0, 0), x -> x.digits(0, 0, 0, 0, 0),
-            x -> x.digits(0, 0, 801, 0, 0), x -> x.digits(0, 0, 1, 5, 0), x -> x.digits(0, 0, 1, 0, 3),
-            x -> x.fixed(4, 0, 1, 0), x -> x.fixed(1, -1, 1, 0), x -> x.fixed(0, 0, -1, 0), x -> x.fixed(0, 0, 1101, 0),
-            x -> x.fixed(0, 0, 1, -1), x -> x.hex(4, 0), x -> x.hex(2, -1), x -> x.decimal(3),
-            x -> x.nearest(4, 1, 0, 0), x -> x.nearest(0, 1, 5001, 0), x -> x.nearest(0, 1, -5001, 0), x -> x.nearest(0, 1, 0, 5),
-            x -> x.power(4, 1, 0, 0), x -> x.power(0, 1, 0, 5), x -> x.convert(4, 0, 0, 0), x -> x.convert(1, -1, 0, 0),
-            x -> x.convert(0, 0, 4, 0), x -> x.convert(0, 0, 0, 5), x -> x.next(4, 0, true), x -> x.next(1, -1, true),
-            x -> x.steps(4, 0, 0), x -> x.steps(1, -1, 0), x -> x.steps(1, 0, -1), x -> x.steps(0, -1, 0), x -> x.steps(0, 0, -1),
-            x -> x.compare(4, 0, 0), x -> x.compare(1, -1, 0), x -> x.compare(1, 0, -1),
-            x -> x.order(4, 0, 0), x -> x.order(1, -1, 0), x -> x.order(1, 0, -1), x -> x.kind(4, 0), x -> x.kind(1, -1),
-            x -> x.reads(4, 0, 1, 0) ? 1 : 0, x -> x.reads(1, -1, 1, 0) ? 1 : 0, x -> x.reads(0, 0, 1, 5001) ? 1 : 0,
-            x -> x.holds(4, 1) ? 1 : 0, x -> x.holds(1, -1) ? 1 : 0, x -> x.holds(0, 0) ? 1 : 0, x -> x.holds(0, -1) ? 1 : 0,
-            x -> x.holds(0, Long.MIN_VALUE) ? 1 : 0, x -> x.holds(0, 0x7ff0000000000000L) ? 1 : 0
-        };
-        for (int i = 0; i < calls.length; i++) {
-            FloatTexts x = filled();
-            Due.refuses("wrong call " + i, x, calls[i]);
-            isFilled("wrong call " + i, x);
-        }
-        Due.Call[] outside = {x -> x.out(5), x -> x.out(-1), x -> x.digit(3), x -> x.digit(-1)};
-        for (int i = 0; i < outside.length; i++) {
-            FloatTexts x = filled();
-            Due.outside("call outside " + i, x, outside[i]);
-            isFilled("call outside " + i, x);
-        }
     }
 
     private static void askingChangesNothing() {
@@ -73,11 +19,11 @@ public final class StateTest {
             x -> x.reads(0, 5, 25, -324) ? 1 : 0, x -> x.holds(0, 5) ? 1 : 0, x -> x.holds(0, MINUS_12_5) ? 1 : 0, x -> x.type(-1, 0)
         };
         for (int i = 0; i < calls.length; i++) {
-            FloatTexts x = filled();
+            FloatTexts x = StateSentences.filled();
             calls[i].on(x);
-            isFilled("asking call " + i, x);
+            StateSentences.isFilled("asking call " + i, x);
         }
-        FloatTexts full = filled();
+        FloatTexts full = StateSentences.filled();
         full.clear();
         for (int i = 0; i < 200; i++) {
             full.type(0x3030303030303030L, 8);
@@ -86,8 +32,8 @@ public final class StateTest {
         Due.same("no room to pass", full.pass(), -1);
         Due.same("all is there still", full.clear(), 1600);
         Due.typeAll(full, "-1.5e-400");
-        isFilled("no room", full);
-        full.type('x', 1);
+        StateSentences.isFilled("no room", full);
+        Due.typeAll(full, "-1.5e-400x");
         Due.same("a fault", full.read(0, 0), -10);
         Due.same("the result stays", full.result(), Long.MIN_VALUE | 1);
         Due.same("the flags stay", full.flags(), 5);
@@ -99,7 +45,7 @@ public final class StateTest {
             x -> x.fixed(0, 5, 3, 3), x -> x.hex(0, 5), x -> x.shortest(0, -1, 0), x -> x.shortest(0, 0, 0)
         };
         for (int i = 0; i < calls.length; i++) {
-            FloatTexts x = filled();
+            FloatTexts x = StateSentences.filled();
             calls[i].on(x);
             Due.same("making call " + i + ": result", x.result(), Long.MIN_VALUE | 1);
             Due.same("making call " + i + ": flags", x.flags(), 5);
@@ -109,7 +55,7 @@ public final class StateTest {
             calls[i].on(x);
             x.exact(0, MINUS_12_5, 1);
             x.read(0, 4);
-            isFilled("after making call " + i, x);
+            StateSentences.isFilled("after making call " + i, x);
         }
     }
 
@@ -118,10 +64,10 @@ public final class StateTest {
             x -> x.nearest(0, 7, -320, 0), x -> x.power(0, 7, -1080, 0), x -> x.convert(0, 7, 1, 0), x -> x.convert(0, -1, 1, 0)
         };
         for (int i = 0; i < calls.length; i++) {
-            FloatTexts x = filled();
+            FloatTexts x = StateSentences.filled();
             Due.same("rounding call " + i, calls[i].on(x), x.result());
             x.read(0, 4);
-            isFilled("rounding call " + i, x);
+            StateSentences.isFilled("rounding call " + i, x);
         }
     }
 
