@@ -1,5 +1,8 @@
 /** Promises 17 to 26: nearest, power, convert, next, steps, compare, order, kind, reads, holds. */
 final class NumberSentences extends Sentences {
+    /** The exponent of 2 of the least number of each format. */
+    private static final int[] LEAST_EXPONENT = {-1074, -149, -24, -133};
+
     private NumberSentences() {
     }
 
@@ -35,13 +38,35 @@ final class NumberSentences extends Sentences {
         same("the least long of 3 by way 2", nearest(3, Long.MIN_VALUE, 0, 2), "df00 0");
         same("65519", nearest(2, 65519, 0, 0), "7bff 1");
         same("65520", nearest(2, 65520, 0, 0), "7c00 3");
-        same("25e-324", nearest(0, 25, -325, 0), "1 5");
+        same("25e-325", nearest(0, 25, -325, 0), "1 5");
         same("24e-325", nearest(0, 24, -325, 0), "0 5");
+        same("1e308", nearest(0, 1, 308, 0), rounded(bits(1e308), 1));
+        same("1e309", nearest(0, 1, 309, 0), rounded(INFINITE[0], 3));
+        same("1e18 * 1e290", nearest(0, 1000000000000000000L, 290, 0), rounded(bits(1e308), 1));
+        same("1e18 * 1e291", nearest(0, 1000000000000000000L, 291, 2), rounded(GREATEST[0], 3));
+        same("1e-323", nearest(0, 1, -323, 0), "2 5");
+        same("1e18 * 1e-341", nearest(0, 1000000000000000000L, -341, 0), "2 5");
         for (int f = 0; f < 4; f++) {
             for (int e : new int[] {0, -5000, 5000}) {
                 for (int way = 0; way < 5; way++) {
                     same("0", nearest(f, 0, e, way), "0 0");
                 }
+            }
+        }
+    }
+
+    /** From 1 digit to 19. */
+    @Says(at = "Promise 17", words = "m * 10^e ROUNDED")
+    static void nearestOfAnyCountOfDigits() {
+        long ten = 1;
+        for (int count = 1; count < 20; count++) {
+            same("1 with zeros, " + count, nearest(0, ten, 0, 0), rounded(bits(ten), 0));
+            same("minus, " + count, nearest(0, -ten, 0, 0), rounded(bits(-ten), 0));
+            same("back to 1, " + count, nearest(2, ten, 1 - count, 0), "3c00 0");
+            same("one more, " + count, nearest(0, ten + 1, 0, 0), rounded(bits(ten + 1), count > 16 ? 1 : 0));
+            if (count < 19) {
+                ten *= 10;
+                same("nines, " + count, nearest(0, ten - 1, 0, 0), rounded(bits(ten - 1), count > 15 ? 1 : 0));
             }
         }
     }
@@ -62,6 +87,8 @@ final class NumberSentences extends Sentences {
     @Says(at = "Promise 18", words = "m * 2^e likewise (any e).")
     static void power() {
         same("3 * 2^-1", power(0, 3, -1, 0), rounded(bits(1.5), 0));
+        same("-3 * 2^-1", power(0, -3, -1, 0), rounded(bits(-1.5), 0));
+        same("-2049 * 2^0", power(2, -2049, 0, 3), "e800 1");
         same("2049 * 2^0", power(2, 2049, 0, 0), "6800 1");
         same("2^-1074", power(0, 1, -1074, 0), "1 0");
         same("2^-1075", power(0, 1, -1075, 0), "0 5");
@@ -88,6 +115,14 @@ final class NumberSentences extends Sentences {
             same("the least e, all bits", power(f, Long.MIN_VALUE, Integer.MIN_VALUE, 4), rounded(SIGN[f] | 1, 5));
             same("0 with the greatest e", power(f, 0, Integer.MAX_VALUE, 3), "0 0");
             same("0 with the least e", power(f, 0, Integer.MIN_VALUE, 4), "0 0");
+            int least = LEAST_EXPONENT[f];
+            same("half of the least number", power(f, 1, least - 1, 1), "1 5");
+            same("a little less than the least number", power(f, Long.MAX_VALUE, least - 63, 1), "1 5");
+            same("a little less than half of it", power(f, Long.MAX_VALUE, least - 64, 1), "0 5");
+            for (int e = least - 140; e < least - 1; e++) {
+                same("less than half of it, e " + e, power(f, 1, e, 1), "0 5");
+                same("less than half of it, e " + (e - 63), power(f, Long.MAX_VALUE, e - 63, 1), "0 5");
+            }
         }
     }
 

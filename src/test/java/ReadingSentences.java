@@ -45,7 +45,7 @@ final class ReadingSentences extends Sentences {
     }
 
     @Says(at = "Terms", words = "+ or - or nothing; then")
-    static void theSignOfAText() {
+    static void theSignThatIsRead() {
         reads("+1.5", 1.5);
         reads("-1.5", -1.5);
         reads("1.5", 1.5);
@@ -165,7 +165,7 @@ final class ReadingSentences extends Sentences {
     }
 
     @Says(at = "Terms", words = "or 0x or 0X, likewise digits 0 .. 9, a .. f, A .. F with one point or none, at least one digit")
-    static void hexadecimalDigits() {
+    static void hexadecimalDigitsThatAreRead() {
         reads("0x1", 1);
         reads("0X1", 1);
         reads("-0x10", -16);
@@ -197,7 +197,7 @@ final class ReadingSentences extends Sentences {
     }
 
     @Says(at = "Terms", words = "then perhaps p or P, + or - or nothing, at least one decimal digit: the exponent of 2.")
-    static void theExponentOfTwo() {
+    static void theExponentOfTwoThatIsRead() {
         reads("0x1p4", 16);
         reads("0x1P4", 16);
         reads("0x1p+4", 16);
@@ -249,6 +249,50 @@ final class ReadingSentences extends Sentences {
         same("a hexadecimal one", read(3, 0, "0x1.01"), rounded(ONE[3], 1));
         same("a hair more", read(3, 0, "0x1.01" + "0".repeat(1500) + "1"), rounded(ONE[3] + 1, 1));
         same("a hair less", read(3, 1, "0x1.00" + "f".repeat(1500)), rounded(ONE[3], 1));
+    }
+
+    /** However far behind a digit is, it makes another number. */
+    @Says(at = "Terms", words = "It is ROUNDED")
+    static void everyDigitCounts() {
+        String middle = "9007199254740993.";
+        for (int zeros = 0; zeros < 1582; zeros++) {
+            same(zeros + " digits 0 before a 1", read(0, 0, middle + "0".repeat(zeros) + "1"), rounded(bits(9007199254740994.0), 1));
+        }
+        // 1 becomes another number by ways 3 and 4 alone, with the hair on its side
+        for (int zeros = 0; zeros < 1590; zeros += 53) {
+            same("a hair above 1", read(0, 3, "1." + "0".repeat(zeros + 16) + "1"), rounded(ONE[0] + 1, 1));
+            same("a hair below 1", read(0, 4, "0." + "9".repeat(zeros + 17)), rounded(ONE[0] - 1, 1));
+        }
+        String whole = java.math.BigInteger.TWO.pow(1000).toString();
+        for (int zeros = 0; zeros < 1290; zeros += 43) {
+            same("a hair above 2^1000", read(0, 3, whole + "." + "0".repeat(zeros) + "1"), rounded(bits(0x1p1000) + 1, 1));
+            same("no hair", read(0, 3, whole + "." + "0".repeat(zeros)), rounded(bits(0x1p1000), 0));
+        }
+    }
+
+    /** The middles as decimals with all their digits, also of the least numbers, and with a digit more. */
+    @Says(at = "Terms", words = "It is ROUNDED")
+    static void middlesAreReadRightly() {
+        for (int f = 0; f < 4; f++) {
+            for (long size : new long[] {0, 1, 2, GREATEST_SUBNORMAL[f], LEAST_NORMAL[f], ONE[f], ONE[f] + 1, GREATEST[f]}) {
+                FloatTexts x = new FloatTexts();
+                x.middle(f, size, 1);
+                x.pass();
+                String what = "the middle above " + Due.hexOf(f, size);
+                became(what, x, f, 0, size + (size & 1));
+                became(what, x, f, 1, size + 1);
+                became(what, x, f, 2, size);
+                // behind a whole number a point comes first
+                x.type(size == GREATEST[f] ? 0x312e : 0x31, size == GREATEST[f] ? 2 : 1);
+                became(what + " and a digit more", x, f, 0, size + 1);
+            }
+        }
+    }
+
+    private static void became(String what, FloatTexts x, int f, int way, long pattern) {
+        int tinyOrNot = pattern < LEAST_NORMAL[f] ? 5 : 1;
+        same(what + " is read", x.read(f, way), 0);
+        same(what + " by " + way, rounded(x), rounded(pattern, pattern == INFINITE[f] ? 3 : tinyOrNot));
     }
 
     @Says(at = "Terms", words = "A FAULT is the first byte that can't be there, however the text goes on")

@@ -160,6 +160,28 @@ final class TextsInSentences extends Sentences {
         same("all bytes are there", x.clear(), 5);
     }
 
+    /** What a text before it was leaves no trace. */
+    @Says(at = "Promise 5", words = "The TEXT (which stays) is READ: 0")
+    static void oneTextBehindAnother() {
+        String hair = "1." + "0".repeat(1200) + "1";
+        String[] texts = {"0x10", "10", "inf", "-nan", "000", "5", "-0x0p5", "1e5", "0x1p-3", hair, "0.5", ".", "-", "00x", "1e", "0x1g"};
+        String[] due = {
+            rounded(bits(16), 0), rounded(bits(10), 0), rounded(INFINITE[0], 0), rounded(minus(0, NAN[0]), 0), rounded(0, 0),
+            rounded(bits(5), 0), rounded(SIGN[0], 0), rounded(bits(1e5), 0), rounded(bits(0.125), 0), rounded(ONE[0], 1),
+            rounded(bits(0.5), 0), "fault 1", "fault 1", "fault 2", "fault 2", "fault 3"
+        };
+        for (String before : texts) {
+            for (int i = 0; i < texts.length; i++) {
+                FloatTexts x = Due.with(before);
+                x.read(0, 0);
+                x.clear();
+                Due.typeAll(x, texts[i]);
+                int answer = x.read(0, 0);
+                same("'" + texts[i] + "' behind '" + before + "'", answer == 0 ? rounded(x) : "fault " + (-1 - answer), due[i]);
+            }
+        }
+    }
+
     @Says(at = "Promise 5", words = "or -1 less the place of its FAULT, and nothing changes.")
     static void theFaultChangesNothing() {
         same("place 0", new FloatTexts().read(0, 0), -1);

@@ -57,6 +57,8 @@ final class WritingSentences extends Sentences {
         same("the least normal of 2", shortest(2, LEAST_NORMAL[2]), "6.104e-5");
         same("the greatest subnormal of 2", shortest(2, GREATEST_SUBNORMAL[2]), "6.1e-5");
         same("minus", shortest(1, minus(1, GREATEST[1])), "-3.4028235e38");
+        same("998244352 of 3, below a power of 10", shortest(3, 0x4e6e), "1e9");
+        same("1002438656 of 3, above it", shortest(3, 0x4e6f), "1.002e9");
     }
 
     @Says(at = "Terms", words = "that ROUNDED by way 0 become the number")
@@ -64,7 +66,16 @@ final class WritingSentences extends Sentences {
         // 10^23 is the middle between the two, and goes to that whose fraction is even
         same("below 1e23", shortest(0, 0x44b52d02c7e14af6L), "1e23");
         same("above 1e23", shortest(0, 0x44b52d02c7e14af7L), "1.0000000000000001e23");
-        same("2^54 + 4", shortest(0, bits(18014398509481988.0)), "1.8014398509481988e16");
+        same("479e19 is the middle below", shortest(0, 0x44703aa9a857e092L), "4.79e21");
+        same("479e19 is the middle above, odd", shortest(0, 0x44703aa9a857e091L), "4.789999999999999e21");
+        same("1.075e9 is the middle below, 1", shortest(1, 0x4e802666L), "1.075e9");
+        same("1.077e9 is the middle above, 1", shortest(1, 0x4e80636eL), "1.077e9");
+        same("4110 is the middle below 4112, 2", shortest(2, 0x6c04), "4.11e3");
+        same("4110 is the middle above 4108, 2", shortest(2, 0x6c03), "4.108e3");
+        same("4130 is the middle above 4128, 2", shortest(2, 0x6c08), "4.13e3");
+        same("4130 is the middle below 4132, 2", shortest(2, 0x6c09), "4.132e3");
+        same("550 is the middle below 552, 3", shortest(3, 0x440a), "5.5e2");
+        same("550 is the middle above 548, 3", shortest(3, 0x4409), "5.48e2");
     }
 
     @Says(at = "Terms", words = "SHORTEST: of all decimals that ROUNDED by way 0 become the number")
@@ -157,6 +168,10 @@ final class WritingSentences extends Sentences {
         same("35 in a digit", digits(35, 1, 0), "4e1");
         same("26 in a digit", digits(26, 1, 0), "3e1");
         same("-125 in two digits", digits(-125, 2, 0), "-1.2e2");
+        same("250 in a digit", digits(250, 1, 0), "2e2");
+        same("251 in a digit", digits(251, 1, 0), "3e2");
+        same("-250000001 in a digit", digits(-250000001, 1, 0), "-3e8");
+        same("349999999999 in a digit", digits(349999999999.0, 1, 0), "3e11");
     }
 
     @Says(at = "Terms", words = "1 the nearer one, of two as near the greater size; 2 the lesser size; 3 the greater number; 4 the lesser one.")
@@ -189,6 +204,8 @@ final class WritingSentences extends Sentences {
         same("21 in a digit", digits(21, 1, 3), "3e1");
         same("-29 in a digit", digits(-29, 1, 3), "-2e1");
         same("91 in a digit", digits(91, 1, 3), "1e2");
+        same("201 in a digit", digits(201, 1, 3), "3e2");
+        same("200000000001 in a digit", digits(200000000001.0, 1, 3), "3e11");
     }
 
     @Says(at = "Terms", words = "4 the lesser one.")
@@ -200,6 +217,26 @@ final class WritingSentences extends Sentences {
         same("29 in a digit", digits(29, 1, 4), "2e1");
         same("-21 in a digit", digits(-21, 1, 4), "-3e1");
         same("-91 in a digit", digits(-91, 1, 4), "-1e2");
+        same("-201 in a digit", digits(-201, 1, 4), "-3e2");
+        same("-200000000001 in a digit", digits(-200000000001.0, 1, 4), "-3e11");
+    }
+
+    /** 2^-1074 has 1074 decimals, which end with 265625. */
+    @Says(at = "Terms", words = "of the two decimals next to it of so many, that by a way")
+    static void soManyOfTheLeastNumber() {
+        int[][] lastDigits = {{2, 3, 2, 3, 2}, {6, 6, 6, 7, 6}, {6, 6, 5, 6, 5}};
+        for (int way = 0; way < 5; way++) {
+            for (int less = 1; less < 4; less++) {
+                FloatTexts x = new FloatTexts();
+                same("bytes of fixed", x.fixed(0, 1, 1074 - less, way), 1076 - less);
+                same("its last digit without " + less + " by " + way, x.digit(750 - less), lastDigits[less - 1][way]);
+                same("bytes of digits", x.digits(0, 1, 751 - less, way, 1), 1076 - less);
+                same("its last digit without " + less + " by " + way, x.digit(750 - less), lastDigits[less - 1][way]);
+            }
+        }
+        same("all of them but the first", out(x -> x.digits(0, 1, 1, 0, 0)), "5e-324");
+        same("324 decimals", told(x -> x.fixed(0, 1, 324, 0)), "+@-323:5");
+        same("323 decimals", told(x -> x.fixed(0, 1, 323, 3)), "+@-322:1");
     }
 
     @Says(at = "Terms", words = "With digits 0 behind, as many as there must be")
@@ -277,6 +314,13 @@ final class WritingSentences extends Sentences {
         same("12345 in two digits", out(x -> x.digits(0, bits(12345), 2, 0, 1)), "12000");
         same("p is 309", out(x -> x.shortest(0, GREATEST[0], 1)), "17976931348623157" + "0".repeat(292));
         same("0 in two digits", out(x -> x.digits(0, 0, 2, 0, 1)), "0.0");
+        FloatTexts x = new FloatTexts();
+        x.exact(0, bits(9876543210.0), 1);
+        same("20 behind a longer one", x.exact(0, bits(20), 1), 2);
+        same("its text", outNow(x, 2), "20");
+        x.exact(0, bits(9876543210.0), 1);
+        same("12345 in two digits behind a longer one", x.digits(0, bits(12345), 2, 0, 1), 5);
+        same("its text", outNow(x, 5), "12000");
     }
 
     @Says(at = "Terms", words = "Form 2: as form 1 if p - 1 is -6 .. 20, otherwise as form 0.")
