@@ -11,12 +11,15 @@ public final class FloatTexts {
     private static final int OUT_ROOM = 1500;
     private static final int MOST_TYPED = 8;
     private static final int MOST_WAY = 4;
-    private static final int MOST_FORM = 2;
     private static final int MOST_DIGITS = 800;
     private static final int MOST_DECIMALS = 1100;
     private static final int MOST_TENS = 5000;
     private static final int LONG_DIGITS = 19;
     private static final int PLAIN = 1;
+    private static final int PLAIN_OR_NOT = 2;
+    /** Exponents of 10 with which the form that may be plain is so. */
+    private static final int LEAST_PLAIN = -6;
+    private static final int MOST_PLAIN = 20;
 
     private static final int NEAREST_EVEN = 0;
     private static final int NEAREST_AWAY = 1;
@@ -384,7 +387,7 @@ public final class FloatTexts {
     }
 
     private static void needForm(int form) {
-        if (form < 0 || form > MOST_FORM) {
+        if (form < 0 || form > PLAIN_OR_NOT) {
             throw new IllegalArgumentException("form is not 0 .. 2");
         }
     }
@@ -587,7 +590,8 @@ public final class FloatTexts {
     private int tellRow(Row row, boolean minus, int count, int form) {
         told.take(row, minus, count);
         made.startWith(minus);
-        if (form == PLAIN || form == MOST_FORM && told.point >= -5 && told.point <= 21) {
+        int exponent = told.point - 1;
+        if (form == PLAIN || form == PLAIN_OR_NOT && exponent >= LEAST_PLAIN && exponent <= MOST_PLAIN) {
             made.addPlain(told);
         } else {
             made.addScientific(told);
